@@ -1,0 +1,138 @@
+/** Promises 20 to 22: aims, how far they are, and the best mechanism. */
+public final class AimTest {
+    private static final int UP = CamWright.UP;
+    private static final int DOWN = CamWright.DOWN;
+
+    public static void main(String[] args) {
+        aim();
+        aimRefuses();
+        far();
+        farWhereStuck();
+        farRefuses();
+        best();
+        bestOfSeveralAlike();
+        bestWhereStuck();
+        Check.finish("AimTest");
+    }
+
+    private static void aim() {
+        CamWright x = Make.withMechanism(60, 20, 50, 40);
+        // B is at (20000, 0) and so on, and of all steps the nearest to (0, 0) by 20000
+        Check.due("three aims at (0, 0)", x.far(0, UP), 60000);
+        x.aim(0, 20, 0);
+        Check.due("the aim 0", x.far(0, UP), 40000);
+        x.aim(1, 0, -20);
+        Check.due("the aim 1", x.far(0, UP), 20000);
+        x.aim(2, -500, 500);
+        Check.due("the aim 2", x.far(0, UP), 1000000 - 28280);
+        x.aim(2, 500, -500);
+        Check.due("the aim 2 told again", x.far(0, UP), 1000000 - 28280);
+        x.aim(2, -20, 1);
+        Check.due("the aim 2 near", x.far(0, UP), 1000);
+    }
+
+    private static void aimRefuses() {
+        CamWright x = Make.withMechanism(60, 20, 50, 40);
+        Check.noIndex("aim -1", () -> aimed(x, -1, 0, 0));
+        Check.noIndex("aim 3", () -> aimed(x, 3, 501, 501));
+        Check.noArgument("x -501", () -> aimed(x, 0, -501, 0));
+        Check.noArgument("x 501", () -> aimed(x, 0, 501, 20));
+        Check.noArgument("y -501", () -> aimed(x, 0, 20, -501));
+        Check.noArgument("y 501", () -> aimed(x, 2, 20, 501));
+        Check.due("nothing was told", x.far(0, UP), 60000);
+    }
+
+    private static long aimed(CamWright x, int aim, int atX, int atY) {
+        x.aim(aim, atX, atY);
+        return 0;
+    }
+
+    private static void far() {
+        CamWright x = Make.withMechanism(40, 10, 30, 30);
+        x.trace(0, 1000, 0);
+        // at the step 12 the joint is at (15000, 16583) and (15000, -16583)
+        for (int i = 0; i < 3; i++) {
+            x.aim(i, 0, 16);
+        }
+        Check.due("up", x.far(0, UP), 3 * leastApart(x, UP, 0, 16000));
+        Check.due("down", x.far(0, DOWN), 3 * leastApart(x, DOWN, 0, 16000));
+        x.aim(0, 15, 17);
+        x.aim(1, -3, -200);
+        x.aim(2, 400, 1);
+        for (int branch = UP; branch <= DOWN; branch++) {
+            long due = leastApart(x, branch, 15000, 17000)
+                + leastApart(x, branch, -3000, -200000) + leastApart(x, branch, 400000, 1000);
+            Check.due("three aims, branch " + branch, x.far(0, branch), due);
+        }
+    }
+
+    private static long leastApart(CamWright x, int branch, long aimX, long aimY) {
+        long least = Long.MAX_VALUE;
+        for (int step = 0; step < 24; step++) {
+            if (x.stuck(0, step) == 0) {
+                long dx = Math.abs(x.at(0, step, branch, 2) - aimX);
+                long dy = Math.abs(x.at(0, step, branch, 3) - aimY);
+                least = Math.min(least, dx + dy);
+            }
+        }
+        return least;
+    }
+
+    private static void farWhereStuck() {
+        CamWright never = Make.withMechanism(100, 1, 2, 3);
+        Check.due("stuck at all steps, up", never.far(0, UP), CamWright.NONE);
+        Check.due("stuck at all steps, down", never.far(0, DOWN), CamWright.NONE);
+        // stuck at the step 12 alone, where B would be at (-100000, 0); at 11 it is (-96600, 25900)
+        CamWright once = Make.withMechanism(120, 100, 109, 110);
+        for (int i = 0; i < 3; i++) {
+            once.aim(i, -100, 0);
+        }
+        Check.due("the stuck step does not count", once.far(0, UP), 3 * (3400 + 25900));
+    }
+
+    private static void farRefuses() {
+        CamWright x = Make.withMechanism(100, 1, 2, 3);
+        Check.noIndex("mechanism 1", () -> x.far(1, 2));
+        Check.noIndex("mechanism -1", () -> x.far(-1, 0));
+        Check.noArgument("branch -1", () -> x.far(0, -1));
+        Check.noArgument("branch 2", () -> x.far(0, 2));
+    }
+
+    private static void best() {
+        CamWright x = new CamWright();
+        Check.due("without mechanisms", x.best(), CamWright.NONE);
+        Make.mechanism(x, 60, 20, 50, 40);
+        Make.mechanism(x, 60, 10, 50, 40);
+        Make.mechanism(x, 60, 15, 50, 40);
+        Check.due("the nearest to (0, 0)", x.best(), 2);
+        for (int i = 0; i < 3; i++) {
+            x.aim(i, 15, 0);
+        }
+        Check.due("the nearest to (15, 0)", x.best(), 4);
+        x.trace(0, 1000, 0);
+        int joint = x.at(0, 0, DOWN, 1);
+        for (int i = 0; i < 3; i++) {
+            x.aim(i, x.at(0, 0, DOWN, 0) / 1000, joint / 1000);
+        }
+        Check.due("the nearest to the joint down", x.best(), 1);
+        for (int i = 0; i < 3; i++) {
+            x.aim(i, x.at(0, 0, DOWN, 0) / 1000, -joint / 1000);
+        }
+        Check.due("the nearest to the joint up", x.best(), 0);
+    }
+
+    private static void bestOfSeveralAlike() {
+        CamWright x = new CamWright();
+        for (int i = 0; i < 8; i++) {
+            Make.mechanism(x, 60, i < 3 ? 20 : 10, 50, 40);
+        }
+        Check.due("the lower one, then up", x.best(), 6);
+    }
+
+    private static void bestWhereStuck() {
+        CamWright x = Make.withMechanism(100, 1, 2, 3);
+        Check.due("stuck at all steps", x.best(), CamWright.NONE);
+        Make.mechanism(x, 200, 190, 150, 150);
+        Check.due("the one that is not", x.best(), 2);
+    }
+}
