@@ -7,6 +7,7 @@ public final class AimTest {
         aim();
         aimRefuses();
         far();
+        farFromThreePlaces();
         farWhereStuck();
         farRefuses();
         best();
@@ -33,33 +34,31 @@ public final class AimTest {
 
     private static void aimRefuses() {
         CamWright x = Make.withMechanism(60, 20, 50, 40);
-        Check.noIndex("aim -1", () -> aimed(x, -1, 0, 0));
-        Check.noIndex("aim 3", () -> aimed(x, 3, 501, 501));
-        Check.noArgument("x -501", () -> aimed(x, 0, -501, 0));
-        Check.noArgument("x 501", () -> aimed(x, 0, 501, 20));
-        Check.noArgument("y -501", () -> aimed(x, 0, 20, -501));
-        Check.noArgument("y 501", () -> aimed(x, 2, 20, 501));
+        Check.noIndex("aim -1", () -> Make.aimed(x, -1, 0, 0));
+        Check.noIndex("aim 3", () -> Make.aimed(x, 3, 501, 501));
+        Check.noArgument("x -501", () -> Make.aimed(x, 0, -501, 0));
+        Check.noArgument("x 501", () -> Make.aimed(x, 0, 501, 20));
+        Check.noArgument("y -501", () -> Make.aimed(x, 0, 20, -501));
+        Check.noArgument("y 501", () -> Make.aimed(x, 2, 20, 501));
         Check.due("nothing was told", x.far(0, UP), 60000);
-    }
-
-    private static long aimed(CamWright x, int aim, int atX, int atY) {
-        x.aim(aim, atX, atY);
-        return 0;
     }
 
     private static void far() {
         CamWright x = Make.withMechanism(40, 10, 30, 30);
         x.trace(0, 1000, 0);
         // at the step 12 the joint is at (15000, 16583) and (15000, -16583)
-        for (int i = 0; i < 3; i++) {
-            x.aim(i, 0, 16);
-        }
+        Make.allAims(x, 0, 16);
         Check.due("up", x.far(0, UP), 3 * leastApart(x, UP, 0, 16000));
         Check.due("down", x.far(0, DOWN), 3 * leastApart(x, DOWN, 0, 16000));
-        x.aim(0, 15, 17);
-        x.aim(1, -3, -200);
-        x.aim(2, 400, 1);
+    }
+
+    private static void farFromThreePlaces() {
         for (int branch = UP; branch <= DOWN; branch++) {
+            CamWright x = Make.withMechanism(40, 10, 30, 30);
+            x.trace(0, 1000, 0);
+            x.aim(0, 15, 17);
+            x.aim(1, -3, -200);
+            x.aim(2, 400, 1);
             long due = leastApart(x, branch, 15000, 17000)
                 + leastApart(x, branch, -3000, -200000) + leastApart(x, branch, 400000, 1000);
             Check.due("three aims, branch " + branch, x.far(0, branch), due);
@@ -84,9 +83,7 @@ public final class AimTest {
         Check.due("stuck at all steps, down", never.far(0, DOWN), CamWright.NONE);
         // stuck at the step 12 alone, where B would be at (-100000, 0); at 11 it is (-96600, 25900)
         CamWright once = Make.withMechanism(120, 100, 109, 110);
-        for (int i = 0; i < 3; i++) {
-            once.aim(i, -100, 0);
-        }
+        Make.allAims(once, -100, 0);
         Check.due("the stuck step does not count", once.far(0, UP), 3 * (3400 + 25900));
     }
 
@@ -105,19 +102,13 @@ public final class AimTest {
         Make.mechanism(x, 60, 10, 50, 40);
         Make.mechanism(x, 60, 15, 50, 40);
         Check.due("the nearest to (0, 0)", x.best(), 2);
-        for (int i = 0; i < 3; i++) {
-            x.aim(i, 15, 0);
-        }
+        Make.allAims(x, 15, 0);
         Check.due("the nearest to (15, 0)", x.best(), 4);
         x.trace(0, 1000, 0);
         int joint = x.at(0, 0, DOWN, 1);
-        for (int i = 0; i < 3; i++) {
-            x.aim(i, x.at(0, 0, DOWN, 0) / 1000, joint / 1000);
-        }
+        Make.allAims(x, x.at(0, 0, DOWN, 0) / 1000, joint / 1000);
         Check.due("the nearest to the joint down", x.best(), 1);
-        for (int i = 0; i < 3; i++) {
-            x.aim(i, x.at(0, 0, DOWN, 0) / 1000, -joint / 1000);
-        }
+        Make.allAims(x, x.at(0, 0, DOWN, 0) / 1000, -joint / 1000);
         Check.due("the nearest to the joint up", x.best(), 0);
     }
 

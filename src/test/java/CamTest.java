@@ -126,7 +126,8 @@ public final class CamTest {
     private static void lifts(String name, CamWright x, int[] degreesAndLifts) {
         for (int i = 0; i + 1 < degreesAndLifts.length; i += 2) {
             int degree = degreesAndLifts[i];
-            Check.due(name + ": lift(0, " + degree + ")", x.lift(0, degree), degreesAndLifts[i + 1]);
+            int due = degreesAndLifts[i + 1];
+            Check.due(name + ": lift(0, " + degree + ")", x.lift(0, degree), due);
         }
     }
 

@@ -5,6 +5,11 @@ final class Check {
         long answer();
     }
 
+    /** A call of the face with one argument left open. */
+    interface CallOf {
+        long answer(int value);
+    }
+
     private static int made = 0;
     private static int wrong = 0;
 
@@ -32,6 +37,36 @@ final class Check {
 
     static void noState(String what, Call call) {
         thrown(what, IllegalStateException.class, call);
+    }
+
+    /** A call that throws one of the document's exceptions; which one is told by other tests. */
+    static void refused(String what, Call call) {
+        made++;
+        try {
+            fault(what + " answered " + call.answer() + ", due is an exception");
+        } catch (RuntimeException e) {
+            if (!isThrownByTheClass(e)) {
+                fault(what + " threw " + e);
+            }
+        }
+    }
+
+    /** What stands just outside of a range, and far outside of it, is no such thing. */
+    static void noIndexOutside(String what, int least, int greatest, CallOf call) {
+        for (int value : outside(least, greatest)) {
+            noIndex(what + " " + value, () -> call.answer(value));
+        }
+    }
+
+    /** The same of another argument. */
+    static void noArgumentOutside(String what, int least, int greatest, CallOf call) {
+        for (int value : outside(least, greatest)) {
+            noArgument(what + " " + value, () -> call.answer(value));
+        }
+    }
+
+    private static int[] outside(int least, int greatest) {
+        return new int[] {least - 1, greatest + 1, Integer.MIN_VALUE, Integer.MAX_VALUE};
     }
 
     private static void thrown(String what, Class<?> kind, Call call) {

@@ -4,6 +4,7 @@ public final class LinkTest {
         letter();
         link();
         linkOfOldName();
+        namesUnlikeInOneLetter();
         linksAreTwelve();
         roles();
         ofLinkRefuses();
@@ -53,6 +54,18 @@ public final class LinkTest {
         Check.due("length of ba", x.ofLink(2, 0), 9);
         Check.noIndex("no fourth link", () -> x.ofLink(3, 0));
         Check.noState("no letters behind it", () -> x.link(3));
+    }
+
+    private static void namesUnlikeInOneLetter() {
+        CamWright x = new CamWright();
+        String[] names = {"abcd", "abcc", "abbd", "aacd", "bbcd", "abc", "bcd", "dcba", "bacd"};
+        for (int i = 0; i < names.length; i++) {
+            Check.due("link " + names[i], Make.link(x, names[i], 1 + i), i);
+        }
+        for (int i = 0; i < names.length; i++) {
+            Check.due("length of " + names[i], x.ofLink(i, 0), 1 + i);
+            Check.due("again " + names[i], Make.link(x, names[i], 101 + i), i);
+        }
     }
 
     private static void linksAreTwelve() {

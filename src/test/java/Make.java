@@ -38,4 +38,25 @@ final class Make {
         x.piece(0, law, degrees, lift);
         return x;
     }
+
+    /** trace, aim and should as calls with a number for their answer. */
+    static long traced(CamWright x, int mechanism, int u, int v) {
+        x.trace(mechanism, u, v);
+        return 0;
+    }
+
+    static long aimed(CamWright x, int aim, int atX, int atY) {
+        x.aim(aim, atX, atY);
+        return 0;
+    }
+
+    static long should(CamWright x, int mechanism) {
+        return x.should(mechanism) ? 1 : 0;
+    }
+
+    static void allAims(CamWright x, int atX, int atY) {
+        for (int aim = 0; aim < 3; aim++) {
+            x.aim(aim, atX, atY);
+        }
+    }
 }

@@ -21,6 +21,7 @@ public final class MechanismTest {
         goes();
         goesRefuses();
         area();
+        areaIsRounded();
         sign();
         Check.finish("MechanismTest");
     }
@@ -75,19 +76,14 @@ public final class MechanismTest {
         x.trace(0, 500, 100);
         int pointX = x.at(0, 3, DOWN, 2);
         int pointY = x.at(0, 3, DOWN, 3);
-        Check.noIndex("trace(1, 0, 0)", () -> traced(x, 1, 0, 0));
-        Check.noIndex("trace(-1, 3000, 0)", () -> traced(x, -1, 3000, 0));
-        Check.noArgument("u -1001", () -> traced(x, 0, -1001, 0));
-        Check.noArgument("u 2001", () -> traced(x, 0, 2001, 0));
-        Check.noArgument("v -1001", () -> traced(x, 0, 0, -1001));
-        Check.noArgument("v 1001", () -> traced(x, 0, 0, 1001));
+        Check.noIndex("trace(1, 0, 0)", () -> Make.traced(x, 1, 0, 0));
+        Check.noIndex("trace(-1, 3000, 0)", () -> Make.traced(x, -1, 3000, 0));
+        Check.noArgument("u -1001", () -> Make.traced(x, 0, -1001, 0));
+        Check.noArgument("u 2001", () -> Make.traced(x, 0, 2001, 0));
+        Check.noArgument("v -1001", () -> Make.traced(x, 0, 0, -1001));
+        Check.noArgument("v 1001", () -> Make.traced(x, 0, 0, 1001));
         Check.due("the point stays, x", x.at(0, 3, DOWN, 2), pointX);
         Check.due("the point stays, y", x.at(0, 3, DOWN, 3), pointY);
-    }
-
-    private static long traced(CamWright x, int mechanism, int u, int v) {
-        x.trace(mechanism, u, v);
-        return 0;
     }
 
     private static void stuck() {
@@ -151,10 +147,16 @@ public final class MechanismTest {
         should("ground and rocker shortest", 20, 60, 60, 20, true);
         should("the longest is the ground", 91, 20, 50, 60, false);
         should("the longest is the crank", 20, 90, 50, 60, true);
+        should("the longest is the crank, one too much", 20, 91, 50, 60, false);
+        should("the longest is the ground, sums alike", 90, 20, 50, 60, true);
         should("the longest is the rocker", 50, 20, 60, 91, false);
+        should("the longest is the rocker, sums alike", 50, 20, 60, 90, true);
+        should("coupler shortest, sums alike", 50, 60, 20, 90, false);
+        should("crank and rocker shortest", 60, 20, 50, 20, false);
+        should("crank and rocker shortest, sums alike", 50, 20, 50, 20, true);
         CamWright x = Make.withMechanism(60, 20, 50, 40);
-        Check.noIndex("should(1)", () -> x.should(1) ? 1 : 0);
-        Check.noIndex("should(-1)", () -> x.should(-1) ? 1 : 0);
+        Check.noIndex("should(1)", () -> Make.should(x, 1));
+        Check.noIndex("should(-1)", () -> Make.should(x, -1));
     }
 
     private static void should(String name, int g, int c, int p, int r, boolean due) {
@@ -281,6 +283,20 @@ public final class MechanismTest {
         Check.noArgument("branch -1", () -> x.area(0, -1));
         Check.noIndex("mechanism 2", () -> x.area(2, 2));
         Check.noIndex("mechanism -1", () -> x.area(-1, 0));
+    }
+
+    /** Sums that are made of parts of 2000000 without a rest, and those that lack 1 to the next. */
+    private static void areaIsRounded() {
+        areaOf("-5548000000", Make.withMechanism(55, 15, 140, 103), 2000, -1000, UP, 2774);
+        areaOf("22000000", Make.withMechanism(133, 2, 100, 89), 126, -874, DOWN, 11);
+        areaOf("3999999", Make.withMechanism(133, 3, 106, 108), 1014, 366, UP, 1);
+        areaOf("-55103999999", Make.withMechanism(195, 91, 152, 135), 2000, -1000, DOWN, 27551);
+        areaOf("1436041415930", Make.withMechanism(39, 140, 200, 200), 2000, 1000, UP, 718020);
+    }
+
+    private static void areaOf(String sum, CamWright x, int u, int v, int branch, int due) {
+        x.trace(0, u, v);
+        Check.due("area of the sum " + sum, x.area(0, branch), due);
     }
 
     private static long loopArea(CamWright x, int branch) {

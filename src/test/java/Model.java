@@ -114,7 +114,9 @@ final class Model {
         if (!in(what, 0, 5)) return "A";
         List<Integer> c = cams.get(cam);
         int greatest = 0;
-        for (int degree = 0; degree < 360; degree++) greatest = Math.max(greatest, liftOf(c, degree));
+        for (int degree = 0; degree < 360; degree++) {
+            greatest = Math.max(greatest, liftOf(c, degree));
+        }
         int first = 0;
         while (liftOf(c, first) != greatest) first++;
         int whole = degrees(c) == 360 && last(c) == 0 ? 1 : 0;

@@ -2,6 +2,8 @@
 public final class ModelTest {
     private static final int RUNS = 160;
     private static final int CALLS = 512;
+    /** The letters of the four names, the links that have them, and the mechanism. */
+    private static final int CALLS_OF_MECHANISM = 24 + 4 + 1;
     private static final String[] NAMES = {"ground", "crank", "coupler", "rocker"};
 
     private long seed;
@@ -27,8 +29,9 @@ public final class ModelTest {
             if (kind < 2) {
                 step(draw(kind == 0 ? 21 : 6));
                 made++;
-            } else if (draw(40) == 0 || made == 0) {
-                made += mechanism(kind == 2 ? 200 : 4 + draw(8));
+            } else if (made == 0 || draw(40) == 0 && made + CALLS_OF_MECHANISM <= CALLS) {
+                mechanism(kind == 2 ? 200 : 4 + draw(8));
+                made += CALLS_OF_MECHANISM;
             } else {
                 step(10 + draw(11));
                 made++;
@@ -55,17 +58,14 @@ public final class ModelTest {
     }
 
     /** A small greatest length brings sums and differences that are alike. */
-    private int mechanism(int most) {
-        int made = 1;
+    private void mechanism(int most) {
         for (String name : NAMES) {
             for (int i = 0; i < name.length(); i++) {
                 letter(name.charAt(i) - 'a');
             }
             link(1 + draw(most));
-            made += name.length() + 1;
         }
         same("build", model.build(), () -> x.build());
-        return made;
     }
 
     private void letter(int letter) {
@@ -128,13 +128,14 @@ public final class ModelTest {
         int place = argument(0, 18);
         switch (which) {
             case 9: same("build", model.build(), () -> x.build()); break;
-            case 10: same("trace", model.trace(m, u, v), () -> trace(m, u, v)); break;
+            case 10: same("trace", model.trace(m, u, v), () -> Make.traced(x, m, u, v)); break;
             case 11: same("stuck", model.stuck(m, step), () -> x.stuck(m, step)); break;
             case 12: same("firstStuck", model.firstStuck(m), () -> x.firstStuck(m)); break;
-            case 13: same("should", model.should(m), () -> x.should(m) ? 1 : 0); break;
+            case 13: same("should", model.should(m), () -> Make.should(x, m)); break;
             case 14: same("at", model.at(m, step, branch, what),
                 () -> x.at(m, step, branch, what)); break;
-            case 15: same("goes", model.goes(m, step, branch), () -> x.goes(m, step, branch)); break;
+            case 15: same("goes", model.goes(m, step, branch),
+                () -> x.goes(m, step, branch)); break;
             case 16: same("area", model.area(m, branch), () -> x.area(m, branch)); break;
             default: same("sign", model.sign(m, place), () -> x.sign(m, place));
         }
@@ -147,20 +148,11 @@ public final class ModelTest {
         int toX = argument(-500, 500);
         int toY = argument(-500, 500);
         switch (which) {
-            case 18: same("aim", model.aim(aim, toX, toY), () -> aim(aim, toX, toY)); break;
+            case 18: same("aim", model.aim(aim, toX, toY),
+                () -> Make.aimed(x, aim, toX, toY)); break;
             case 19: same("far", model.far(m, branch), () -> x.far(m, branch)); break;
             default: same("best", model.best(), () -> x.best());
         }
-    }
-
-    private long trace(int mechanism, int u, int v) {
-        x.trace(mechanism, u, v);
-        return 0;
-    }
-
-    private long aim(int aim, int toX, int toY) {
-        x.aim(aim, toX, toY);
-        return 0;
     }
 
     private void same(String call, String due, Check.Call made) {
