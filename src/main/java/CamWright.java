@@ -387,91 +387,71 @@ public final class CamWright {
         return root;
     }
 
-    /** A piece of a cam, from one lift to another by a law. */
-    private static final class Piece {
-        final int law;
-        final int begin;
-        final int degrees;
-        final int from;
-        final int to;
-
-        Piece(int law, int begin, int degrees, int from, int to) {
-            this.law = law;
-            this.begin = begin;
-            this.degrees = degrees;
-            this.from = from;
-            this.to = to;
-        }
-
-        int end() {
-            return begin + degrees;
-        }
-
-        int liftAt(int degree) {
-            long n = degrees;
-            long k = degree - begin;
-            switch (law) {
-                case LINE: return partWay(k, n);
-                case PARABOLA: return partWay(parabola(k, n), n * n);
-                case CUBIC: return partWay(k * k * (3 * n - 2 * k), n * n * n);
-                default: return from;
-            }
-        }
-
-        private int partWay(long done, long whole) {
-            return from + (int) divided((to - from) * done, whole);
-        }
-
-        private static long parabola(long k, long n) {
-            return 2 * k <= n ? 2 * k * k : n * n - 2 * squared(n - k);
-        }
-    }
-
-    /** A base with pieces around it. */
+    /**
+     * A base with pieces around it. Of the pieces nothing is asked but the lifts that they make, so
+     * these are worked out once, when a piece is added; behind all pieces stands the last lift.
+     */
     private static final class Cam {
         final int base;
-        private final ArrayList<Piece> pieces = new ArrayList<>();
+        private final int[] lifts = new int[ROUND];
+        private int pieces = 0;
+        private int degrees = 0;
+        private int lastLift = 0;
 
         Cam(int base) {
             this.base = base;
         }
 
         int pieceCount() {
-            return pieces.size();
+            return pieces;
         }
 
         int degreesUsed() {
-            return pieces.isEmpty() ? 0 : pieces.get(pieces.size() - 1).end();
+            return degrees;
         }
 
-        int lastLift() {
-            return pieces.isEmpty() ? 0 : pieces.get(pieces.size() - 1).to;
+        boolean hasRoomFor(int more) {
+            return pieces < MOST_PIECES && degrees + more <= ROUND;
         }
 
-        boolean hasRoomFor(int degrees) {
-            return pieces.size() < MOST_PIECES && degreesUsed() + degrees <= ROUND;
+        void addPiece(int law, int length, int to) {
+            for (int degree = degrees; degree < ROUND; degree++) {
+                int k = degree - degrees;
+                lifts[degree] = k < length ? liftBetween(lastLift, to, law, k, length) : to;
+            }
+            pieces++;
+            degrees += length;
+            lastLift = to;
         }
 
-        void addPiece(int law, int degrees, int lift) {
-            pieces.add(new Piece(law, degreesUsed(), degrees, lastLift(), lift));
+        private static int liftBetween(int from, int to, int law, long k, long n) {
+            switch (law) {
+                case LINE: return partWay(from, to, k, n);
+                case PARABOLA: return partWay(from, to, parabola(k, n), n * n);
+                case CUBIC: return partWay(from, to, k * k * (3 * n - 2 * k), n * n * n);
+                default: return from;
+            }
+        }
+
+        private static int partWay(int from, int to, long done, long whole) {
+            return from + (int) divided((to - from) * done, whole);
+        }
+
+        private static long parabola(long k, long n) {
+            return 2 * k <= n ? 2 * k * k : n * n - 2 * squared(n - k);
         }
 
         boolean isWhole() {
-            return degreesUsed() == ROUND && lastLift() == 0;
+            return degrees == ROUND && lastLift == 0;
         }
 
         int liftAt(int degree) {
-            for (int i = 0; i < pieces.size(); i++) {
-                if (degree < pieces.get(i).end()) {
-                    return pieces.get(i).liftAt(degree);
-                }
-            }
-            return lastLift();
+            return lifts[degree];
         }
 
         int steepnessAt(int degree) {
-            int here = liftAt(degree);
-            int next = liftAt((degree + 1) % ROUND);
+            int here = lifts[degree];
+            int next = lifts[(degree + 1) % ROUND];
             return (int) divided(1000L * Math.abs(next - here), base + here);
         }
 
@@ -486,11 +466,8 @@ public final class CamWright {
 
         int degreeOfGreatestLift() {
             int best = 0;
-            int greatest = liftAt(0);
             for (int degree = 1; degree < ROUND; degree++) {
-                int lift = liftAt(degree);
-                if (lift > greatest) {
-                    greatest = lift;
+                if (lifts[degree] > lifts[best]) {
                     best = degree;
                 }
             }

@@ -8,10 +8,14 @@ public final class AimTest {
         aimRefuses();
         far();
         farFromThreePlaces();
+        farBehindTrace();
         farWhereStuck();
+        farWhereNear();
         farRefuses();
         best();
+        bestBehindTrace();
         bestOfSeveralAlike();
+        bestOfBranchesAlike();
         bestWhereStuck();
         Check.finish("AimTest");
     }
@@ -77,6 +81,20 @@ public final class AimTest {
         return least;
     }
 
+    private static void farBehindTrace() {
+        CamWright x = Make.withMechanism(40, 10, 30, 30);
+        // the joint is at (15000, 16583) at the step 12
+        Make.allAims(x, 15, 16);
+        long ofCrankEnd = leastApart(x, UP, 15000, 16000);
+        Check.due("the point is B", x.far(0, UP), 3 * ofCrankEnd);
+        x.trace(0, 1000, 0);
+        long ofJoint = leastApart(x, UP, 15000, 16000);
+        Check.due("the joint is nearer", ofJoint < ofCrankEnd, true);
+        Check.due("the point is the joint", x.far(0, UP), 3 * ofJoint);
+        x.trace(0, 0, 0);
+        Check.due("the point is B again", x.far(0, UP), 3 * ofCrankEnd);
+    }
+
     private static void farWhereStuck() {
         CamWright never = Make.withMechanism(100, 1, 2, 3);
         Check.due("stuck at all steps, up", never.far(0, UP), CamWright.NONE);
@@ -85,6 +103,14 @@ public final class AimTest {
         CamWright once = Make.withMechanism(120, 100, 109, 110);
         Make.allAims(once, -100, 0);
         Check.due("the stuck step does not count", once.far(0, UP), 3 * (3400 + 25900));
+    }
+
+    /** Where it is stuck by NEAR, at the step 0, B would be at the aims; at 1 it is (6762, 1813). */
+    private static void farWhereNear() {
+        CamWright x = Make.withMechanism(7, 7, 5, 5);
+        Make.allAims(x, 7, 0);
+        Check.due("near does not count, up", x.far(0, UP), 3 * (238 + 1813));
+        Check.due("near does not count, down", x.far(0, DOWN), 3 * (238 + 1813));
     }
 
     private static void farRefuses() {
@@ -110,6 +136,37 @@ public final class AimTest {
         Check.due("the nearest to the joint down", x.best(), 1);
         Make.allAims(x, x.at(0, 0, DOWN, 0) / 1000, -joint / 1000);
         Check.due("the nearest to the joint up", x.best(), 0);
+    }
+
+    private static void bestBehindTrace() {
+        CamWright x = new CamWright();
+        Make.mechanism(x, 60, 20, 50, 40);
+        Make.mechanism(x, 60, 19, 50, 40);
+        Make.allAims(x, x.at(0, 0, DOWN, 0) / 1000, x.at(0, 0, DOWN, 1) / 1000);
+        Check.due("both points are B", x.best(), 0);
+        x.trace(0, 1000, 0);
+        Check.due("the joint of the first, down", x.best(), 1);
+        x.trace(0, 0, 0);
+        Check.due("both points are B again", x.best(), 0);
+    }
+
+    /** With aims at y 0, turning v over answers on one branch what was answered on the other. */
+    private static void bestOfBranchesAlike() {
+        CamWright x = new CamWright();
+        Make.mechanism(x, 60, 20, 50, 40);
+        Make.mechanism(x, 60, 20, 50, 40);
+        x.aim(0, 40, 0);
+        x.aim(1, -5, 0);
+        x.aim(2, 17, 0);
+        for (int v = -300; v <= 300; v += 600) {
+            x.trace(0, 500, v);
+            x.trace(1, 500, -v);
+            Check.due("down of the first, up of the last", x.far(0, DOWN), x.far(1, UP));
+            Check.due("up of the first, down of the last", x.far(0, UP), x.far(1, DOWN));
+            boolean isUpNearer = x.far(0, UP) < x.far(0, DOWN);
+            Check.due("up is nearer with v below 0", isUpNearer, v < 0);
+            Check.due("the lower mechanism, v " + v, x.best(), isUpNearer ? UP : DOWN);
+        }
     }
 
     private static void bestOfSeveralAlike() {

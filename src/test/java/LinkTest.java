@@ -5,6 +5,8 @@ public final class LinkTest {
         link();
         linkOfOldName();
         namesUnlikeInOneLetter();
+        namesOfOneLetter();
+        namesAlikeAsNumbers();
         linksAreTwelve();
         roles();
         ofLinkRefuses();
@@ -64,6 +66,33 @@ public final class LinkTest {
         }
         for (int i = 0; i < names.length; i++) {
             Check.due("length of " + names[i], x.ofLink(i, 0), 1 + i);
+            Check.due("again " + names[i], Make.link(x, names[i], 101 + i), i);
+        }
+    }
+
+    /** The letter 0 counts like all others: a and aa are two names. */
+    private static void namesOfOneLetter() {
+        CamWright x = new CamWright();
+        String[] names = {"a", "aa", "aaa", "aaaa", "aaaaa", "aaaaaa", "aaaaaaa", "aaaaaaaa",
+            "b", "ab", "ba", "baa"};
+        unlike(x, names);
+    }
+
+    /** Each pair is one number of 32 bits, if letters are digits (by 26, 26, 27 and 31). */
+    private static void namesAlikeAsNumbers() {
+        CamWright x = new CamWright();
+        String[] names = {"iqzviibx", "xqhmddtp", "bgkvqyaw", "nofbcmdi", "vynzsexw", "pugcqafq",
+            "xdfoihuv", "kofydnth"};
+        unlike(x, names);
+    }
+
+    private static void unlike(CamWright x, String[] names) {
+        for (int i = 0; i < names.length; i++) {
+            Check.due("link " + names[i], Make.link(x, names[i], 1 + i), i);
+        }
+        for (int i = 0; i < names.length; i++) {
+            Check.due("length of " + names[i], x.ofLink(i, 0), 1 + i);
+            Check.due("letters of " + names[i], x.ofLink(i, 2), names[i].length());
             Check.due("again " + names[i], Make.link(x, names[i], 101 + i), i);
         }
     }

@@ -16,7 +16,9 @@ public final class MechanismTest {
         should();
         atCrankEnds();
         atJoints();
+        atJointsIsRounded();
         atPoints();
+        atPointsIsRounded();
         atRefuses();
         goes();
         goesRefuses();
@@ -199,6 +201,25 @@ public final class MechanismTest {
         Check.due("folded, w is below 0", folded.at(0, 0, UP, 0), -10000);
     }
 
+    /** Rounded towards 0 is what is divided, ahead of being added to B. */
+    private static void atJointsIsRounded() {
+        // d is 3000, and (16 - 36 + 9) by 6 is -1.83, so that w is -1833 and h the root of 12640111
+        CamWright back = Make.withMechanism(5, 2, 4, 6);
+        Check.due("w is -1833, x", back.at(0, 0, UP, 0), 2000 - 1833);
+        Check.due("w is -1833, y up", back.at(0, 0, UP, 1), 3555);
+        Check.due("w is -1833, y down", back.at(0, 0, DOWN, 1), -3555);
+        // B (-707, 707): e 1707, f -707, q 3413698, d 1847, w 924, h the root of 146224, 382
+        CamWright x = Make.withMechanism(1, 1, 1, 1);
+        Check.due("1847342 by 1847", x.at(0, 9, UP, 0), -707 + 1000);
+        Check.due("-1194 by 1847", x.at(0, 9, UP, 1), 707);
+        Check.due("1307194 by 1847", x.at(0, 9, DOWN, 0), -707 + 707);
+        Check.due("-1305342 by 1847", x.at(0, 9, DOWN, 1), 707 - 706);
+        // the same B, e, f and d, but w 111 and h the root of 987679, 993
+        CamWright y = Make.withMechanism(1, 1, 1, 2);
+        Check.due("891528 by 1847", y.at(0, 9, UP, 0), -707 + 482);
+        Check.due("1616574 by 1847", y.at(0, 9, UP, 1), 707 + 875);
+    }
+
     private static void atPoints() {
         // the joint less B is (25000, 16583) up and (25000, -16583) down
         CamWright x = Make.withMechanism(40, 10, 30, 30);
@@ -214,6 +235,22 @@ public final class MechanismTest {
         x.trace(0, 2000, -1000);
         Check.due("greatest u, least v, x", x.at(0, 12, UP, 2), -10000 + 66583);
         Check.due("greatest u, least v, y", x.at(0, 12, UP, 3), 33166 - 25000);
+    }
+
+    private static void atPointsIsRounded() {
+        // the joint less B is (25000, 16583) at the step 12 and (25285, 16143) at the step 6
+        CamWright x = Make.withMechanism(40, 10, 30, 30);
+        x.trace(0, 0, 1);
+        Check.due("-16583 by 1000", x.at(0, 12, UP, 2), -10000 - 16);
+        Check.due("16583 by 1000", x.at(0, 12, DOWN, 2), -10000 + 16);
+        x.trace(0, 0, -1);
+        Check.due("16583 by 1000, v below 0", x.at(0, 12, UP, 2), -10000 + 16);
+        x.trace(0, -1, 0);
+        Check.due("-25285 by 1000", x.at(0, 6, UP, 2), -25);
+        Check.due("-16143 by 1000", x.at(0, 6, UP, 3), 10000 - 16);
+        x.trace(0, 1, 1);
+        Check.due("25285 less 16143, by 1000", x.at(0, 6, UP, 2), 9);
+        Check.due("16143 and 25285, by 1000", x.at(0, 6, UP, 3), 10000 + 41);
     }
 
     private static void atRefuses() {
@@ -278,7 +315,10 @@ public final class MechanismTest {
         x.trace(1, 2000, 1000);
         Check.due("a great loop", x.area(1, UP), 673436);
         CamWright y = stuckAtTwelve();
-        Check.noState("does not go round", () -> y.area(0, UP));
+        Check.noState("far, does not go round", () -> y.area(0, UP));
+        CamWright near = Make.withMechanism(50, 11, 20, 60);
+        Check.due("near, and never far", near.stuck(0, 12), 0);
+        Check.noState("near, does not go round", () -> near.area(0, UP));
         Check.noArgument("branch 2 ahead of it", () -> y.area(0, 2));
         Check.noArgument("branch -1", () -> x.area(0, -1));
         Check.noIndex("mechanism 2", () -> x.area(2, 2));

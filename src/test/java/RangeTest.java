@@ -170,9 +170,12 @@ public final class RangeTest {
         Check.due("its length", x.ofLink(0, 0), 1);
         x.letter(0);
         Check.noArgumentOutside("link again, length", 1, 200, length -> x.link(length));
+        Check.due("its length stays", x.ofLink(0, 0), 1);
         Check.due("the greatest length", x.link(200), 0);
         Check.due("its length then", x.ofLink(0, 0), 200);
         x.letter(0);
+        Check.noArgumentOutside("once more, length", 1, 200, length -> x.link(length));
+        Check.due("its length then stays", x.ofLink(0, 0), 200);
         Check.due("the least length again", x.link(1), 0);
         Check.due("its length again", x.ofLink(0, 0), 1);
     }
